@@ -599,6 +599,7 @@ public final class LayeredActs {
             row.setLog(layering.ownLog && !(error && layering.errorLosesLog), logs, results.logOf(k));
         }
 
+        // Goes no deeper than a TERM is high, and keep() refuses those above 30.
         private int perform(Term term) {
             if (term == null || spent >= limit) {
                 return OUT;
