@@ -27,6 +27,11 @@ final class Check {
         }
     }
 
+    /** That a run of the term from the state 5, with steps enough, is told so. */
+    void told(String what, String want, LayeredActs x, int term) {
+        equal(what, want, Told.run(x, term));
+    }
+
     void holds(String what, boolean got) {
         equal(what, 1, got ? 1 : 0);
     }

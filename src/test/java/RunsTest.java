@@ -29,20 +29,6 @@ public final class RunsTest {
         CHECK.end();
     }
 
-    private static LayeredActs under(int a, int b, int c, int d) {
-        LayeredActs x = new LayeredActs();
-        x.order(a, b, c, d);
-        return x;
-    }
-
-    private static void due(String what, String want, LayeredActs x, int term) {
-        CHECK.equal(what, want, Told.run(x, term));
-    }
-
-    private static int seq(LayeredActs x, int a, int b) {
-        return x.then(a, 7, b);
-    }
-
     private static void orders() {
         LayeredActs x = new LayeredActs();
         CHECK.equal("order of none", 0, x.order(NONE, NONE, NONE, NONE));
@@ -52,15 +38,15 @@ public final class RunsTest {
         CHECK.equal("order of four", 4, x.order(CHOICE, LOG, ERROR, STATE));
         int write = x.write(false, 1);
         x.order(NONE, STATE, NONE, CHOICE);
-        due("state outside choice, with gaps", "5@1 |", x, write);
+        CHECK.told("state outside choice, with gaps", "5@1 |", x, write);
         x.order(CHOICE, NONE, NONE, STATE);
-        due("choice outside state, with gaps", "5 |@1", x, write);
+        CHECK.told("choice outside state, with gaps", "5 |@1", x, write);
         x.order(NONE, NONE, NONE, STATE);
-        due("state alone", "5@1 |", x, write);
+        CHECK.told("state alone", "5@1 |", x, write);
     }
 
     private static void wrongOrders() {
-        LayeredActs x = under(STATE, NONE, NONE, NONE);
+        LayeredActs x = Make.under(STATE, NONE, NONE, NONE);
         for (int n : new int[] {-2, 4, Integer.MIN_VALUE, Integer.MAX_VALUE, 32, 35}) {
             CHECK.failsArgument("order(" + n + ", ..)", () -> x.order(n, NONE, NONE, NONE));
             CHECK.failsArgument("order(1, " + n + ", ..)", () -> x.order(LOG, n, NONE, NONE));
@@ -73,7 +59,7 @@ public final class RunsTest {
             CHECK.failsArgument("order(n, .., n)", () -> x.order(twice, NONE, NONE, twice));
             CHECK.failsArgument("order(.., n, n)", () -> x.order(NONE, NONE, twice, twice));
         }
-        due("a wrong order changes nothing", "5@5 |", x, x.read());
+        CHECK.told("a wrong order changes nothing", "5@5 |", x, x.read());
     }
 
     private static void layersThatAreNeeded() {
@@ -93,7 +79,7 @@ public final class RunsTest {
     }
 
     private static void steps() {
-        LayeredActs x = under(CHOICE, ERROR, NONE, NONE);
+        LayeredActs x = Make.under(CHOICE, ERROR, NONE, NONE);
         int give = x.give(false, 1);
         CHECK.equal("one step", 1, x.run(give, 0, 1));
         CHECK.equal("one step spent", 1, x.shared(1));
@@ -140,18 +126,18 @@ public final class RunsTest {
     }
 
     private static void aLogOfSixty() {
-        LayeredActs x = under(LOG, CHOICE, ERROR, NONE);
+        LayeredActs x = Make.under(LOG, CHOICE, ERROR, NONE);
         int say = x.say(false, 3);
         int four = x.times(false, 4, say);
-        int sixty = seq(x, x.times(false, 7, x.times(false, 8, say)), four);
+        int sixty = Make.seq(x, x.times(false, 7, x.times(false, 8, say)), four);
         CHECK.equal("sixty numbers", 1, x.run(sixty, 0, 2000));
         CHECK.equal("their count", 60, x.result(0, 4));
         CHECK.equal("the sixtieth", 3, x.result(0, 64));
         CHECK.failsArgument("the sixty-first", () -> x.result(0, 65));
-        CHECK.equal("sixty-one", OUT, x.run(seq(x, sixty, say), 0, 2000));
-        CHECK.equal("not saved", OUT, x.run(x.saved(seq(x, sixty, say), 0, say), 0, 2000));
+        CHECK.equal("sixty-one", OUT, x.run(Make.seq(x, sixty, say), 0, 2000));
+        CHECK.equal("not saved", OUT, x.run(x.saved(Make.seq(x, sixty, say), 0, say), 0, 2000));
         CHECK.equal("sixty each", 2, x.run(x.either(sixty, sixty), 0, 2000));
-        CHECK.equal("sixty hidden, and sixty", 1, x.run(seq(x, x.as(HIDDEN, sixty), sixty), 0, 2000));
+        CHECK.equal("sixty hidden, and sixty", 1, x.run(Make.seq(x, x.as(HIDDEN, sixty), sixty), 0, 2000));
         x.order(CHOICE, LOG, NONE, NONE);
         CHECK.equal("sixty, shared", 1, x.run(sixty, 0, 2000));
         CHECK.equal("their count, shared", 60, x.shared(4));
@@ -173,7 +159,7 @@ public final class RunsTest {
     }
 
     private static void fiftyResults() {
-        LayeredActs x = under(CHOICE, NONE, NONE, NONE);
+        LayeredActs x = Make.under(CHOICE, NONE, NONE, NONE);
         int one = x.give(false, 4);
         int fifty = results(x, 50);
         CHECK.equal("fifty", 50, x.run(fifty, 0, 2000));
@@ -182,19 +168,19 @@ public final class RunsTest {
         CHECK.equal("fifty and none", 50, x.run(x.either(fifty, x.none()), 0, 2000));
         CHECK.equal("fifty-one", OUT, x.run(x.either(fifty, one), 0, 2000));
         CHECK.equal("fifty-one, but once", OUT, x.run(x.as(ONCE, x.either(fifty, one)), 0, 2000));
-        CHECK.equal("fifty each alone", 50, x.run(seq(x, fifty, one), 0, 2000));
+        CHECK.equal("fifty each alone", 50, x.run(Make.seq(x, fifty, one), 0, 2000));
         CHECK.equal("fifty, once each", 2, x.run(x.either(x.as(ONCE, fifty), x.as(ONCE, fifty)), 0, 2000));
-        CHECK.equal("fifty, none for each", 0, x.run(seq(x, fifty, x.none()), 0, 2000));
-        LayeredActs y = under(CHOICE, NONE, NONE, NONE);
+        CHECK.equal("fifty, none for each", 0, x.run(Make.seq(x, fifty, x.none()), 0, 2000));
+        LayeredActs y = Make.under(CHOICE, NONE, NONE, NONE);
         int ten = results(y, 10);
         int five = results(y, 5);
-        CHECK.equal("ten times five", 50, y.run(seq(y, ten, five), 0, 2000));
-        CHECK.equal("five times ten", 50, y.run(seq(y, five, ten), 0, 2000));
-        CHECK.equal("ten times six", OUT, y.run(seq(y, ten, y.either(five, y.give(false, 1))), 0, 2000));
+        CHECK.equal("ten times five", 50, y.run(Make.seq(y, ten, five), 0, 2000));
+        CHECK.equal("five times ten", 50, y.run(Make.seq(y, five, ten), 0, 2000));
+        CHECK.equal("ten times six", OUT, y.run(Make.seq(y, ten, y.either(five, y.give(false, 1))), 0, 2000));
     }
 
     private static void fiftyResultsOfEachRound() {
-        LayeredActs x = under(STATE, CHOICE, NONE, NONE);
+        LayeredActs x = Make.under(STATE, CHOICE, NONE, NONE);
         int seven = results(x, 7);
         CHECK.equal("two rounds of seven", 49, x.run(x.times(false, 2, seven), 0, 2000));
         CHECK.equal("three rounds of seven", OUT, x.run(x.times(false, 3, seven), 0, 2000));
@@ -210,15 +196,15 @@ public final class RunsTest {
     }
 
     private static void fiftyResultsWithErrors() {
-        LayeredActs x = under(ERROR, CHOICE, NONE, NONE);
+        LayeredActs x = Make.under(ERROR, CHOICE, NONE, NONE);
         int numbers = results(x, 20);
         int error = x.fail(false, 1);
-        int errors = seq(x, results(x, 10), error);
+        int errors = Make.seq(x, results(x, 10), error);
         int two = results(x, 2);
-        CHECK.equal("40 and 10 errors", 50, x.run(seq(x, x.either(numbers, errors), two), 0, 2000));
+        CHECK.equal("40 and 10 errors", 50, x.run(Make.seq(x, x.either(numbers, errors), two), 0, 2000));
         int more = x.either(x.either(numbers, errors), error);
-        CHECK.equal("40 and 11 errors", OUT, x.run(seq(x, more, two), 0, 2000));
-        CHECK.equal("11 errors and 40", OUT, x.run(seq(x, x.either(errors, x.either(error, numbers)), two), 0, 2000));
+        CHECK.equal("40 and 11 errors", OUT, x.run(Make.seq(x, more, two), 0, 2000));
+        CHECK.equal("11 errors and 40", OUT, x.run(Make.seq(x, x.either(errors, x.either(error, numbers)), two), 0, 2000));
         CHECK.equal("20 and 22 saved", 42, x.run(x.saved(more, 0, two), 0, 2000));
         int three = results(x, 3);
         CHECK.equal("20 and 30 saved", 50, x.run(x.saved(x.either(numbers, errors), 0, three), 0, 2000));
@@ -226,7 +212,7 @@ public final class RunsTest {
     }
 
     private static void whatComesFirst() {
-        LayeredActs x = under(CHOICE, STATE, ERROR, NONE);
+        LayeredActs x = Make.under(CHOICE, STATE, ERROR, NONE);
         int ten = results(x, 10);
         int six = x.either(results(x, 5), x.give(false, 1));
         // Fails when the state, which counts down, is 0.
@@ -241,7 +227,7 @@ public final class RunsTest {
 
     private static void whatResultTells() {
         LayeredActs x = new LayeredActs();
-        int said = seq(x, x.say(false, 11), seq(x, x.say(false, 12), x.write(false, 6)));
+        int said = Make.seq(x, x.say(false, 11), Make.seq(x, x.say(false, 12), x.write(false, 6)));
         int failed = x.either(said, x.fail(false, 13));
         x.order(ERROR, STATE, LOG, CHOICE);
         CHECK.equal("two results", 2, x.run(failed, 5, 100));
@@ -272,7 +258,7 @@ public final class RunsTest {
 
     private static void whatSharedTells() {
         LayeredActs x = new LayeredActs();
-        int said = seq(x, x.say(false, 11), seq(x, x.say(false, 12), x.write(false, 6)));
+        int said = Make.seq(x, x.say(false, 11), Make.seq(x, x.say(false, 12), x.write(false, 6)));
         int failed = x.either(said, x.fail(false, 13));
         x.order(CHOICE, ERROR, STATE, LOG);
         CHECK.equal("ended", ENDED, x.run(failed, 5, 100));
@@ -299,13 +285,13 @@ public final class RunsTest {
         }
         int give = x.give(false, 3);
         x.order(CHOICE, NONE, NONE, NONE);
-        due("no such layers", "3 |", x, give);
+        CHECK.told("no such layers", "3 |", x, give);
         CHECK.equal("no error", 0, x.shared(0));
     }
 
     private static void theLatestRun() {
-        LayeredActs x = under(STATE, CHOICE, LOG, NONE);
-        int acts = seq(x, x.say(false, 1), x.write(false, 2));
+        LayeredActs x = Make.under(STATE, CHOICE, LOG, NONE);
+        int acts = Make.seq(x, x.say(false, 1), x.write(false, 2));
         String told = Told.run(x, acts);
         CHECK.equal("the run", "5@2 |[1]", told);
         x.order(CHOICE, LOG, STATE, ERROR);
@@ -321,7 +307,7 @@ public final class RunsTest {
     }
 
     private static void aRunThatIsOut() {
-        LayeredActs x = under(CHOICE, NONE, NONE, NONE);
+        LayeredActs x = Make.under(CHOICE, NONE, NONE, NONE);
         int give = x.give(false, 1);
         int two = x.either(give, give);
         CHECK.equal("a run", 2, x.run(two, 0, 3));
@@ -343,12 +329,12 @@ public final class RunsTest {
     }
 
     private static void alike() {
-        LayeredActs x = under(STATE, ERROR, NONE, NONE);
+        LayeredActs x = Make.under(STATE, ERROR, NONE, NONE);
         int read = x.read();
         int failed = x.fail(false, 1);
-        int writes = seq(x, x.write(false, 9), failed);
+        int writes = Make.seq(x, x.write(false, 9), failed);
         same("a term and itself", true, x, read, read);
-        same("steps may differ", true, x, read, seq(x, read, read));
+        same("steps may differ", true, x, read, Make.seq(x, read, read));
         same("the state that is lost", true, x, writes, failed);
         same("from the same state", true, x, read, x.give(false, 5));
         CHECK.holds("from another state", !x.alike(read, x.terms() - 1, 6, 20));
@@ -370,12 +356,12 @@ public final class RunsTest {
         int two = x.give(false, 2);
         int fail = x.fail(false, 1);
         int failTwo = x.fail(false, 2);
-        int say = seq(x, x.say(false, 1), one);
-        int sayTwo = seq(x, x.say(false, 2), one);
-        int write = seq(x, x.write(false, 1), one);
+        int say = Make.seq(x, x.say(false, 1), one);
+        int sayTwo = Make.seq(x, x.say(false, 2), one);
+        int write = Make.seq(x, x.write(false, 1), one);
         int[][] orders = {{ERROR, STATE, LOG, CHOICE}, {CHOICE, ERROR, STATE, LOG}, {ERROR, CHOICE, LOG, STATE}};
-        int[] terms = {one, two, fail, failTwo, say, sayTwo, write, x.none(), x.either(one, one), seq(x, say, fail),
-            seq(x, write, fail), seq(x, say, say), seq(x, sayTwo, say), x.either(one, two), x.either(two, one)};
+        int[] terms = {one, two, fail, failTwo, say, sayTwo, write, x.none(), x.either(one, one), Make.seq(x, say, fail),
+            Make.seq(x, write, fail), Make.seq(x, say, say), Make.seq(x, sayTwo, say), x.either(one, two), x.either(two, one)};
         for (int[] order : orders) {
             x.order(order[0], order[1], order[2], order[3]);
             for (int i = 0; i < terms.length; i++) {
@@ -386,26 +372,26 @@ public final class RunsTest {
             }
         }
         same("logs of one length", false, x, say, sayTwo);
-        same("logs of two lengths", false, x, say, seq(x, say, say));
+        same("logs of two lengths", false, x, say, Make.seq(x, say, say));
         x.order(CHOICE, ERROR, STATE, LOG);
-        same("ended, with other logs", false, x, seq(x, say, fail), seq(x, sayTwo, fail));
-        same("ended, with other states", false, x, fail, seq(x, write, fail));
+        same("ended, with other logs", false, x, Make.seq(x, say, fail), Make.seq(x, sayTwo, fail));
+        same("ended, with other states", false, x, fail, Make.seq(x, write, fail));
         x.order(CHOICE, STATE, LOG, ERROR);
-        same("ended, with logs that are lost", true, x, seq(x, say, fail), seq(x, sayTwo, fail));
-        same("ended, with states that are lost", true, x, fail, seq(x, write, fail));
+        same("ended, with logs that are lost", true, x, Make.seq(x, say, fail), Make.seq(x, sayTwo, fail));
+        same("ended, with states that are lost", true, x, fail, Make.seq(x, write, fail));
         same("ended or not", false, x, x.none(), fail);
     }
 
     private static void alikeIsNoRun() {
-        LayeredActs x = under(STATE, CHOICE, LOG, ERROR);
+        LayeredActs x = Make.under(STATE, CHOICE, LOG, ERROR);
         int give = x.give(false, 1);
         CHECK.holds("alike without a run", x.alike(give, give, 0, 9));
         CHECK.failsOutside("result of no run", () -> x.result(0, 0));
         CHECK.failsState("shared of no run", () -> x.shared(0));
-        int acts = x.either(seq(x, x.say(false, 8), x.write(false, 2)), seq(x, x.say(false, 9), x.write(false, 3)));
+        int acts = x.either(Make.seq(x, x.say(false, 8), x.write(false, 2)), Make.seq(x, x.say(false, 9), x.write(false, 3)));
         String told = Told.run(x, acts);
         CHECK.equal("a run", "5@2 5@3 |[8,9]", told);
-        int others = x.either(x.say(false, 3), seq(x, x.say(false, 4), x.fail(false, 1)));
+        int others = x.either(x.say(false, 3), Make.seq(x, x.say(false, 4), x.fail(false, 1)));
         x.alike(others, give, 7, 99);
         x.alike(give, acts, 7, 3);
         CHECK.equal("the run behind alike", told, Told.latest(x, 2));
