@@ -723,7 +723,8 @@ public final class LayeredActs {
                 return how;
             }
             // Where the ERROR has lost them, its part begins with those of the beginning.
-            for (int i = base; i < results.size(); i++) {
+            int end = results.size();
+            for (int i = base; i < end; i++) {
                 if (results.isError(i)) {
                     results.setState(i, layering.errorLosesState ? stateThen : results.stateOf(i));
                     results.setLog(i, layering.errorLosesLog ? logThen : results.logOf(i));
@@ -758,7 +759,8 @@ public final class LayeredActs {
             if (how != GOING) {
                 return how;
             }
-            for (int i = base; i < results.size(); i++) {
+            int end = results.size();
+            for (int i = base; i < end; i++) {
                 if (!results.isError(i)) {
                     int itsLog = layering.ownLog ? results.logOf(i) : log;
                     results.setNumber(i, logs.lengthOf(itsLog) - lengthThen);
@@ -775,7 +777,8 @@ public final class LayeredActs {
                 return how;
             }
             log = logThen;
-            for (int i = base; i < results.size(); i++) {
+            int end = results.size();
+            for (int i = base; i < end; i++) {
                 results.setLog(i, logThen);
             }
             return GOING;

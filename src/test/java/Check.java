@@ -1,6 +1,11 @@
-/** Counts the answers that are not as due and prints each of them. */
+import java.util.HashSet;
+import java.util.Set;
+
+/** Counts the answers that are not as due and prints each of them, with the sentence that is broken. */
 final class Check {
     private final String about;
+    private final Set<String> sentences = new HashSet<>();
+    private String sentence = "";
     private int looked;
     private int wrong;
 
@@ -11,6 +16,12 @@ final class Check {
     /** A call that may throw. */
     interface Call {
         long answer();
+    }
+
+    /** The words of the document that the answers from here on are about. */
+    void sentence(String words) {
+        sentence = words;
+        sentences.add(words);
     }
 
     void equal(String call, long want, long got) {
@@ -66,12 +77,14 @@ final class Check {
     private void report(String call, String want, String got) {
         wrong++;
         if (wrong <= 40) {
-            System.out.println(about + ": " + call + " answered " + got + ", due is " + want);
+            System.out.println(about + ": " + call + " answered " + got + ", due is " + want
+                    + (sentence.isEmpty() ? "" : ", as: " + sentence));
         }
     }
 
     void end() {
-        System.out.println(about + ": " + looked + " answers, " + wrong + " not as due");
+        System.out.println(about + ": " + (sentences.isEmpty() ? "" : sentences.size() + " sentences, ")
+                + looked + " answers, " + wrong + " not as due");
         if (wrong != 0) {
             System.exit(1);
         }

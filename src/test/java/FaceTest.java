@@ -6,18 +6,18 @@ import java.lang.reflect.Modifier;
 import java.nio.file.Files;
 import java.nio.file.Path;
 import java.util.Arrays;
+import java.util.List;
 import java.util.Set;
 import java.util.TreeSet;
 import java.util.regex.Matcher;
 import java.util.regex.Pattern;
 
-/** The public face, and some rules of LANGUAGE.md that a look at the class and its text can tell. */
+/** The public face, and those rules of LANGUAGE.md that a look at the class and its text can tell. */
 public final class FaceTest {
-    private static final String OUTSIDE = " IndexOutOfBoundsException";
-    private static final String ARGUMENT = " IllegalArgumentException";
-    private static final String STATE = " IllegalStateException";
-    private static final String FULL = " UnsupportedOperationException";
     private static final Check CHECK = new Check("FaceTest");
+    private static final Set<String> EXCEPTIONS = Set.of("IllegalStateException", "IllegalArgumentException",
+            "IndexOutOfBoundsException", "ArithmeticException", "UnsupportedOperationException", "NoSuchElementException",
+            "RuntimeException");
 
     private FaceTest() {
     }
@@ -27,81 +27,70 @@ public final class FaceTest {
         methods();
         nothingElseIsSeen();
         classesInside();
-        words(Files.readString(Path.of("src/main/java/LayeredActs.java")));
+        String text = Files.readString(Path.of("src/main/java/LayeredActs.java"));
+        String code = text.replaceAll("(?s)/\\*.*?\\*/", "").replaceAll("//[^\n]*", "").replaceAll("\"[^\"]*\"", "\"\"");
+        words(code);
+        exceptions(code);
         CHECK.end();
     }
 
     private static void constants() {
+        CHECK.sentence("The constants: NONE = -1, ENDED = -2, OUT = -3");
         CHECK.equal("NONE", -1, LayeredActs.NONE);
         CHECK.equal("ENDED", -2, LayeredActs.ENDED);
         CHECK.equal("OUT", -3, LayeredActs.OUT);
     }
 
     private static void methods() {
-        Set<String> want = new TreeSet<>(Set.of(
-                "int give(boolean, int)" + OUTSIDE + FULL,
-                "int of(int, int, int)" + OUTSIDE + ARGUMENT + FULL,
-                "int read()" + FULL,
-                "int write(boolean, int)" + OUTSIDE + FULL,
-                "int say(boolean, int)" + OUTSIDE + FULL,
-                "int fail(boolean, int)" + OUTSIDE + FULL,
-                "int none()" + FULL,
-                "int either(int, int)" + OUTSIDE + FULL,
-                "int then(int, int, int)" + OUTSIDE + FULL,
-                "int saved(int, int, int)" + OUTSIDE + FULL,
-                "int when(int, int, int)" + OUTSIDE + FULL,
-                "int times(boolean, int, int)" + OUTSIDE + FULL,
-                "int as(int, int)" + OUTSIDE + ARGUMENT + FULL,
-                "int order(int, int, int, int)" + ARGUMENT,
-                "int needs(int)" + OUTSIDE,
-                "int run(int, int, int)" + OUTSIDE + ARGUMENT + STATE,
-                "int result(int, int)" + OUTSIDE + ARGUMENT,
-                "int shared(int)" + STATE + ARGUMENT,
-                "boolean alike(int, int, int, int)" + OUTSIDE + ARGUMENT + STATE,
+        CHECK.sentence("The public face");
+        Set<String> want = new TreeSet<>(Set.of("int give(boolean, int)", "int of(int, int, int)", "int read()",
+                "int write(boolean, int)", "int say(boolean, int)", "int fail(boolean, int)", "int none()",
+                "int either(int, int)", "int then(int, int, int)", "int saved(int, int, int)", "int when(int, int, int)",
+                "int times(boolean, int, int)", "int as(int, int)", "int order(int, int, int, int)", "int needs(int)",
+                "int run(int, int, int)", "int result(int, int)", "int shared(int)", "boolean alike(int, int, int, int)",
                 "int terms()"));
         Set<String> got = new TreeSet<>();
-        for (Method m : LayeredActs.class.getDeclaredMethods()) {
+        for (Method m : methodsOf(LayeredActs.class)) {
             if (Modifier.isPublic(m.getModifiers())) {
-                got.add(written(m));
+                String taken = Arrays.toString(m.getParameterTypes()).replaceAll("[\\[\\]]", "");
+                got.add(m.getReturnType() + " " + m.getName() + "(" + taken + ")");
             }
         }
         CHECK.equal("the public methods", want.toString(), got.toString());
     }
 
-    private static String written(Method m) {
-        StringBuilder text = new StringBuilder();
-        text.append(m.getReturnType()).append(' ').append(m.getName()).append('(');
-        text.append(Arrays.toString(m.getParameterTypes()).replaceAll("[\\[\\]]", "")).append(')');
-        for (Class<?> e : m.getExceptionTypes()) {
-            text.append(' ').append(e.getSimpleName());
-        }
-        return text.toString();
+    private static List<Method> methodsOf(Class<?> one) {
+        return Arrays.stream(one.getDeclaredMethods()).filter(m -> !m.isSynthetic()).toList();
     }
 
-    private static boolean isPrivate(int modifiers) {
-        return Modifier.isPrivate(modifiers);
+    private static List<Field> fieldsOf(Class<?> one) {
+        return Arrays.stream(one.getDeclaredFields()).filter(f -> !f.isSynthetic()).toList();
     }
 
     private static void nothingElseIsSeen() {
+        CHECK.sentence("rule 1: public and final, no other public, protected or package-visible member");
         Class<LayeredActs> face = LayeredActs.class;
-        CHECK.holds("public and final", (face.getModifiers() & (Modifier.PUBLIC | Modifier.FINAL)) == (Modifier.PUBLIC | Modifier.FINAL));
-        Set<String> seen = new TreeSet<>();
+        CHECK.holds("public", Modifier.isPublic(face.getModifiers()));
+        CHECK.holds("final", Modifier.isFinal(face.getModifiers()));
         Set<String> names = new TreeSet<>();
-        for (Method m : face.getDeclaredMethods()) {
-            CHECK.holds(m.getName() + " is public or private", Modifier.isPublic(m.getModifiers()) || isPrivate(m.getModifiers()));
-            if (Modifier.isPublic(m.getModifiers())) {
+        for (Method m : methodsOf(face)) {
+            boolean seen = Modifier.isPublic(m.getModifiers());
+            CHECK.holds(m.getName() + " is public or private", seen || Modifier.isPrivate(m.getModifiers()));
+            if (seen) {
                 names.add(m.getName());
             }
         }
-        for (Field f : face.getDeclaredFields()) {
-            if (!isPrivate(f.getModifiers())) {
+        Set<String> seen = new TreeSet<>();
+        for (Field f : fieldsOf(face)) {
+            if (!Modifier.isPrivate(f.getModifiers())) {
                 seen.add(f.getName());
             }
         }
         CHECK.equal("fields that are seen", "[ENDED, NONE, OUT]", seen.toString());
-        for (Constructor<?> c : face.getDeclaredConstructors()) {
-            CHECK.holds("the one constructor", Modifier.isPublic(c.getModifiers()) && c.getParameterCount() == 0);
-        }
+        Constructor<?>[] constructors = face.getDeclaredConstructors();
+        CHECK.equal("constructors", 1, constructors.length);
+        CHECK.holds("a public one of nothing", Modifier.isPublic(constructors[0].getModifiers())
+                && constructors[0].getParameterCount() == 0);
         privateNames(face, names);
         for (Class<?> inside : face.getDeclaredClasses()) {
             privateNames(inside, names);
@@ -109,41 +98,49 @@ public final class FaceTest {
     }
 
     private static void privateNames(Class<?> one, Set<String> names) {
-        for (Method m : one.getDeclaredMethods()) {
-            boolean ofTheFace = one == LayeredActs.class && Modifier.isPublic(m.getModifiers());
-            CHECK.holds(one.getSimpleName() + "." + m.getName() + " bears no public name", ofTheFace || !names.contains(m.getName()));
-            CHECK.holds(m.getName() + " has at most seven parameters", m.getParameterCount() <= 7);
+        for (Method m : methodsOf(one)) {
+            String name = one.getSimpleName() + "." + m.getName();
+            CHECK.holds(name + " bears no public name", !Modifier.isPrivate(m.getModifiers()) || !names.contains(m.getName()));
+            CHECK.holds(name + " has at most seven parameters", m.getParameterCount() <= 7);
+        }
+        for (Field f : fieldsOf(one)) {
+            CHECK.holds(f.getName() + " is final if static", !Modifier.isStatic(f.getModifiers()) || Modifier.isFinal(f.getModifiers()));
         }
     }
 
     private static void classesInside() {
-        Class<?>[] inside = LayeredActs.class.getDeclaredClasses();
-        CHECK.holds("at most twelve classes", inside.length <= 11);
-        for (Class<?> one : inside) {
+        CHECK.sentence("rule 1: the classes inside it are private or package-visible");
+        for (Class<?> one : LayeredActs.class.getDeclaredClasses()) {
             int modifiers = one.getModifiers();
-            CHECK.holds(one.getSimpleName() + " is static", Modifier.isStatic(modifiers));
             CHECK.holds(one.getSimpleName() + " is not open", !Modifier.isPublic(modifiers) && !Modifier.isProtected(modifiers));
-            long fields = Arrays.stream(one.getDeclaredFields()).filter(f -> !Modifier.isStatic(f.getModifiers())).count();
-            CHECK.holds(one.getSimpleName() + " has at most twenty fields", fields <= 20);
-            for (Field f : one.getDeclaredFields()) {
-                CHECK.holds(f.getName() + " is final if static", !Modifier.isStatic(f.getModifiers()) || Modifier.isFinal(f.getModifiers()));
-            }
         }
     }
 
-    private static void words(String text) {
-        String code = text.replaceAll("(?s)/\\*.*?\\*/", "").replaceAll("//[^\n]*", "").replaceAll("\"[^\"]*\"", "\"\"");
-        for (String word : new String[] {"import", "package", "try", "catch", "finally", "synchronized", "assert",
-            "equals", "hashCode", "toString", "Object", "Exact"}) {
-            CHECK.holds("no " + word, !Pattern.compile("\\b\\w*" + word + "\\b").matcher(code).find());
+    private static boolean has(String code, String pattern) {
+        return Pattern.compile(pattern).matcher(code).find();
+    }
+
+    private static void words(String code) {
+        CHECK.sentence("rules 2, 4, 6 and 13: what is not used");
+        for (String word : new String[] {"package", "finally", "synchronized", "assert", "hashCode", "getMessage", "Object",
+            "Thread", "Random", "Throwable", "Exception", "Error"}) {
+            CHECK.holds("no " + word, !has(code, "\\b" + word + "\\b"));
         }
-        CHECK.holds("no lambda", !code.contains("->"));
+        CHECK.holds("none that ends in Exact", !has(code, "\\w+Exact\\b"));
+        CHECK.holds("of System, arraycopy alone", !has(code, "System\\.(?!arraycopy)"));
+        CHECK.holds("of packages, java.util alone", !has(code, "\\bjava\\.(?!util\\.\\w+\\s*;)"));
+        // The arrow of a switch is no lambda.
+        String withoutArrows = code.replaceAll("(case[^:;{}]*?|default\\s*)->", "");
+        CHECK.holds("no lambda", !withoutArrows.contains("->"));
         CHECK.holds("no method reference", !code.contains("::"));
-        Matcher thrown = Pattern.compile("throw new (\\w+)").matcher(code);
-        while (thrown.find()) {
-            CHECK.holds(thrown.group(1) + " may be thrown", Set.of("IllegalStateException", "IllegalArgumentException",
-                    "IndexOutOfBoundsException", "UnsupportedOperationException").contains(thrown.group(1)));
+    }
+
+    private static void exceptions(String code) {
+        CHECK.sentence("rule 6: which exceptions there are");
+        Matcher named = Pattern.compile("\\b\\w+Exception\\b").matcher(code);
+        while (named.find()) {
+            CHECK.holds(named.group() + " may be named", EXCEPTIONS.contains(named.group()));
         }
-        CHECK.holds("plain characters", text.chars().allMatch(c -> c < 127));
+        CHECK.equal("each throw makes its own", code.split("\\bthrow\\b").length, code.split("\\bthrow new\\b").length);
     }
 }

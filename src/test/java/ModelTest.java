@@ -6,8 +6,6 @@ import java.util.TreeMap;
 /** Many made-up terms under all orders, against the model: what run, result, shared and alike tell. */
 public final class ModelTest {
     private static final int OBJECTS = 6000;
-    // With all that is asked of them these are more than 512 calls; the class does not count its
-    // calls, so what it answers behind them is looked at as well.
     private static final int RUNS = 20;
     private static final Check CHECK = new Check("ModelTest");
     // A seed of our own: the same terms each time.
@@ -16,7 +14,7 @@ public final class ModelTest {
     private static final List<List<Integer>> FULL = new ArrayList<>();
     private static final TreeMap<String, Integer> SEEN = new TreeMap<>();
 
-    private final LayeredActs acts = new LayeredActs();
+    private final Renewed acts = new Renewed();
     private final List<Model.Term> terms = new ArrayList<>();
     private final int layers;
 
@@ -133,8 +131,8 @@ public final class ModelTest {
                 : terms.size() - 1 - RANDOM.nextInt(Math.min(terms.size(), 5));
     }
 
-    private void keep(int number, Model.Term term) {
-        CHECK.equal("the number of a term", terms.size(), number);
+    private void keep(Renewed.Call making, Model.Term term) {
+        CHECK.equal("the number of a term", terms.size(), acts.make(making));
         terms.add(term);
     }
 
@@ -147,20 +145,20 @@ public final class ModelTest {
         int layer = RANDOM.nextInt(6);
         if (layer == 0 && has(0)) {
             if (RANDOM.nextBoolean()) {
-                keep(acts.read(), new Model.Term("read", false, 0, 0, 0, null, null));
+                keep(y -> y.read(), new Model.Term("read", false, 0, 0, 0, null, null));
             } else {
-                keep(acts.write(named, x), new Model.Term("write", named, x, 0, 0, null, null));
+                keep(y -> y.write(named, x), new Model.Term("write", named, x, 0, 0, null, null));
             }
         } else if (layer == 1 && has(1)) {
-            keep(acts.say(named, x), new Model.Term("say", named, x, 0, 0, null, null));
+            keep(y -> y.say(named, x), new Model.Term("say", named, x, 0, 0, null, null));
         } else if (layer == 2 && has(2)) {
-            keep(acts.fail(named, x), new Model.Term("fail", named, x, 0, 0, null, null));
+            keep(y -> y.fail(named, x), new Model.Term("fail", named, x, 0, 0, null, null));
         } else if (layer == 3 && has(3) && RANDOM.nextInt(3) == 0) {
-            keep(acts.none(), new Model.Term("none", false, 0, 0, 0, null, null));
+            keep(y -> y.none(), new Model.Term("none", false, 0, 0, 0, null, null));
         } else if (RANDOM.nextBoolean()) {
-            keep(acts.of(p, q, op), new Model.Term("of", false, op, p, q, null, null));
+            keep(y -> y.of(p, q, op), new Model.Term("of", false, op, p, q, null, null));
         } else {
-            keep(acts.give(named, x), new Model.Term("give", named, x, 0, 0, null, null));
+            keep(y -> y.give(named, x), new Model.Term("give", named, x, 0, 0, null, null));
         }
     }
 
@@ -175,21 +173,21 @@ public final class ModelTest {
         int kind = RANDOM.nextInt(18);
         try {
             if (kind >= 13 && has(3)) {
-                keep(acts.either(t, u), new Model.Term("either", false, 0, 0, 0, first, second));
+                keep(y -> y.either(t, u), new Model.Term("either", false, 0, 0, 0, first, second));
             } else if (kind <= 2 && has(2)) {
-                keep(acts.saved(t, name, u), new Model.Term("saved", false, 0, name, 0, first, second));
+                keep(y -> y.saved(t, name, u), new Model.Term("saved", false, 0, name, 0, first, second));
             } else if (kind == 3 && has(3)) {
-                keep(acts.as(0, t), new Model.Term("once", false, 0, 0, 0, first, null));
+                keep(y -> y.as(0, t), new Model.Term("once", false, 0, 0, 0, first, null));
             } else if (kind == 4 && has(1)) {
-                keep(acts.as(1, t), new Model.Term("heard", false, 0, 0, 0, first, null));
+                keep(y -> y.as(1, t), new Model.Term("heard", false, 0, 0, 0, first, null));
             } else if (kind == 5 && has(1)) {
-                keep(acts.as(2, t), new Model.Term("hidden", false, 0, 0, 0, first, null));
+                keep(y -> y.as(2, t), new Model.Term("hidden", false, 0, 0, 0, first, null));
             } else if (kind <= 7 && kind >= 6) {
-                keep(acts.times(named, x, t), new Model.Term("times", named, x, 0, 0, first, null));
+                keep(y -> y.times(named, x, t), new Model.Term("times", named, x, 0, 0, first, null));
             } else if (kind == 8) {
-                keep(acts.when(name, t, u), new Model.Term("when", false, 0, name, 0, first, second));
+                keep(y -> y.when(name, t, u), new Model.Term("when", false, 0, name, 0, first, second));
             } else {
-                keep(acts.then(t, name, u), new Model.Term("then", false, 0, name, 0, first, second));
+                keep(y -> y.then(t, name, u), new Model.Term("then", false, 0, name, 0, first, second));
             }
         } catch (UnsupportedOperationException e) {
             // Too high: a leaf is made instead, so that the number of terms still grows.

@@ -9,9 +9,28 @@ final class Told {
     private Told() {
     }
 
+    /** Something that answers as result() and shared() do. */
+    interface Source {
+        int result(int k, int what);
+
+        int shared(int what);
+    }
+
     /** Something that answers as result(k, ..) or shared(..) does. */
     private interface Asked {
         int answer(int what);
+    }
+
+    private record Plain(LayeredActs x) implements Source {
+        @Override
+        public int result(int k, int what) {
+            return x.result(k, what);
+        }
+
+        @Override
+        public int shared(int what) {
+            return x.shared(what);
+        }
     }
 
     static String run(LayeredActs x, int term, int state, int steps) {
@@ -24,6 +43,10 @@ final class Told {
     }
 
     static String latest(LayeredActs x, int answer) {
+        return latest(new Plain(x), answer);
+    }
+
+    static String latest(Source x, int answer) {
         StringBuilder text = new StringBuilder();
         if (answer == LayeredActs.ENDED) {
             text.append("ENDED ").append(x.shared(0)).append(' ');
