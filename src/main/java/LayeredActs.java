@@ -512,7 +512,7 @@ public final class LayeredActs {
         // As of a RUN that was OUT, nothing is told where there was none.
         int answer = OUT;
         final Row common = new Row();
-        final Row[] rows = new Row[MOST_RESULTS];
+        private final Row[] rows = new Row[MOST_RESULTS];
 
         Outcome() {
             for (int k = 0; k < MOST_RESULTS; k++) {
@@ -530,7 +530,9 @@ public final class LayeredActs {
                 return false;
             }
             for (int k = 0; k < answer && k < MOST_RESULTS; k++) {
-                if (!rows[k].isLike(other.rows[k], NONE)) {
+                Row mine = rowOf(k);
+                Row its = other.rowOf(k);
+                if (mine == null || its == null || !mine.isLike(its, NONE)) {
                     return false;
                 }
             }
@@ -582,7 +584,10 @@ public final class LayeredActs {
         private void tell(Outcome outcome) {
             tellCommon(outcome.common, outcome.answer == ENDED);
             for (int k = 0; k < outcome.answer && k < MOST_RESULTS; k++) {
-                tellResult(outcome.rows[k], k);
+                Row row = outcome.rowOf(k);
+                if (row != null) {
+                    tellResult(row, k);
+                }
             }
         }
 

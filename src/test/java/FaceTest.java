@@ -11,6 +11,7 @@ import java.util.Set;
 import java.util.TreeSet;
 import java.util.regex.Matcher;
 import java.util.regex.Pattern;
+import java.util.stream.Collectors;
 
 /** The public face, and those rules of LANGUAGE.md that a look at the class and its text can tell. */
 public final class FaceTest {
@@ -41,22 +42,29 @@ public final class FaceTest {
         CHECK.equal("OUT", -3, LayeredActs.OUT);
     }
 
-    private static void methods() {
+    /** The document's lines, but for the names of parameters, which a compiled class does not keep. */
+    private static void methods() throws IOException {
         CHECK.sentence("The public face");
-        Set<String> want = new TreeSet<>(Set.of("int give(boolean, int)", "int of(int, int, int)", "int read()",
-                "int write(boolean, int)", "int say(boolean, int)", "int fail(boolean, int)", "int none()",
-                "int either(int, int)", "int then(int, int, int)", "int saved(int, int, int)", "int when(int, int, int)",
-                "int times(boolean, int, int)", "int as(int, int)", "int order(int, int, int, int)", "int needs(int)",
-                "int run(int, int, int)", "int result(int, int)", "int shared(int)", "boolean alike(int, int, int, int)",
-                "int terms()"));
+        Set<String> want = new TreeSet<>();
+        for (String line : Files.readAllLines(Path.of("../shared/DOC.md"))) {
+            if (line.startsWith("    public ") && line.contains("(") && !line.contains("LayeredActs(")) {
+                want.add(line.strip().replace("public ", "").replace(";", "").replaceAll("(int|boolean) \\w+(?=[,)])", "$1"));
+            }
+        }
+        CHECK.equal("how many methods the document has", 20, want.size());
         Set<String> got = new TreeSet<>();
         for (Method m : methodsOf(LayeredActs.class)) {
             if (Modifier.isPublic(m.getModifiers())) {
-                String taken = Arrays.toString(m.getParameterTypes()).replaceAll("[\\[\\]]", "");
-                got.add(m.getReturnType() + " " + m.getName() + "(" + taken + ")");
+                String thrown = namesOf(m.getExceptionTypes());
+                got.add(m.getReturnType() + " " + m.getName() + "(" + namesOf(m.getParameterTypes()) + ")"
+                        + (thrown.isEmpty() ? "" : " throws " + thrown));
             }
         }
         CHECK.equal("the public methods", want.toString(), got.toString());
+    }
+
+    private static String namesOf(Class<?>[] types) {
+        return Arrays.stream(types).map(Class::getSimpleName).collect(Collectors.joining(", "));
     }
 
     private static List<Method> methodsOf(Class<?> one) {

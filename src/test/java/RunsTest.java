@@ -26,6 +26,7 @@ public final class RunsTest {
         fiftyWithErrorsThatStay();
         moreThanFiftyInside();
         fiftyComeToThemThen();
+        fiftyOfThoseThatHaveCome();
         aLogOfSixty();
         aSharedLogOfSixty();
         aLogThatIsShorterAgain();
@@ -285,6 +286,23 @@ public final class RunsTest {
         CHECK.equal("an error, saved", 10, x.run(x.saved(all, 0, ten), -8, 2000));
         int fifty = Make.results(x, 50);
         CHECK.equal("an error behind fifty", ENDED, x.run(x.either(fifty, x.either(x.give(false, 1), x.fail(false, 2))), 0, 2000));
+    }
+
+    private static void fiftyOfThoseThatHaveCome() {
+        CHECK.sentence("those of the TERM, and these are more than 50 then (t's, that u is still to be DONE for, are not among them)");
+        LayeredActs x = Make.under(ERROR, CHOICE, NONE, NONE);
+        int one = x.give(false, 1);
+        int ones = Make.results(x, 48);
+        // Of the name 3: two results if it is 0, none if it is 5, else one.
+        int isFive = x.then(x.give(false, 5), 4, x.of(3, 4, 4));
+        int noneOfFive = x.then(isFive, 5, x.when(5, x.none(), one));
+        int twoOfZero = x.when(3, noneOfFive, x.either(one, one));
+        int numbers = x.either(x.give(false, 0), x.give(false, 5));
+        CHECK.equal("then: two, none, and 48", 50, x.run(x.then(x.either(numbers, ones), 3, twoOfZero), 0, 2000));
+        CHECK.equal("then: 48, two, and none", 50, x.run(x.then(x.either(ones, numbers), 3, twoOfZero), 0, 2000));
+        int errors = x.then(numbers, 3, x.fail(true, 3));
+        CHECK.equal("saved: two, none, and 48", 50, x.run(x.saved(x.either(errors, ones), 3, twoOfZero), 0, 2000));
+        CHECK.equal("saved: 48, two, and none", 50, x.run(x.saved(x.either(ones, errors), 3, twoOfZero), 0, 2000));
     }
 
     private static void aLogOfSixty() {
