@@ -24,6 +24,8 @@ public final class RunsTest {
         fiftyOfSavedShared();
         fiftyOfOtherTerms();
         fiftyWithErrorsThatStay();
+        fiftyOfTimesWithErrorsThatStay();
+        fiftyWithNumbersThatStay();
         moreThanFiftyInside();
         fiftyComeToThemThen();
         fiftyOfThoseThatHaveCome();
@@ -259,6 +261,28 @@ public final class RunsTest {
         int more = x.either(errors, error);
         CHECK.equal("40 and 11 errors", OUT, x.run(Make.seq(x, x.either(numbers, more), two), 0, 2000));
         CHECK.equal("11 errors and 40", OUT, x.run(Make.seq(x, x.either(more, numbers), two), 0, 2000));
+    }
+
+    private static void fiftyOfTimesWithErrorsThatStay() {
+        CHECK.sentence("TIMES: as THEN does; a RESULT that is an ERROR stays in its place (among the 50)");
+        LayeredActs x = Make.under(ERROR, CHOICE, NONE, NONE);
+        int error = x.fail(false, 1);
+        int six = x.either(Make.results(x, 6), x.either(error, error));
+        int five = x.either(Make.results(x, 5), Make.seq(x, Make.results(x, 5), error));
+        CHECK.equal("six times eight, and 2 errors", 50, x.run(x.times(false, 2, six), 0, 2000));
+        CHECK.equal("five times ten, and 5 errors", OUT, x.run(x.times(false, 2, five), 0, 2000));
+    }
+
+    private static void fiftyWithNumbersThatStay() {
+        CHECK.sentence("SAVED: those that are none stay as they are (among the 50)");
+        LayeredActs x = Make.under(ERROR, CHOICE, NONE, NONE);
+        int numbers = Make.results(x, 20);
+        int errors = Make.seq(x, Make.results(x, 10), x.fail(false, 1));
+        int three = Make.results(x, 3);
+        int more = x.either(numbers, x.give(false, 1));
+        CHECK.equal("10 saved by 3, and 20", 50, x.run(x.saved(x.either(errors, numbers), 0, three), 0, 2000));
+        CHECK.equal("10 saved by 3, and 21", OUT, x.run(x.saved(x.either(errors, more), 0, three), 0, 2000));
+        CHECK.equal("21, and 10 saved by 3", OUT, x.run(x.saved(x.either(more, errors), 0, three), 0, 2000));
     }
 
     private static void moreThanFiftyInside() {
